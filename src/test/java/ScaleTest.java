@@ -1,0 +1,141 @@
+/** Promise 8, book B and whether the books agree. */
+public final class ScaleTest {
+    public static void main(String[] args) {
+        refused();
+        filtered();
+        theLastEight();
+        booksAgree();
+        booksAgreeRounded();
+        booksBelowNothing();
+        notKnownBehindACut();
+        Check.finish();
+    }
+
+    private static void refused() {
+        NightCycler x = new NightCycler();
+        Check.no("-1", x.scale(-1));
+        Check.no("100001", x.scale(100001));
+        Check.no("far below", x.scale(Integer.MIN_VALUE));
+        Check.no("far above", x.scale(Integer.MAX_VALUE));
+        Check.yes("0", x.scale(0));
+        Check.yes("100000", x.scale(100000));
+        x.cut(6);
+        Check.no("without power", x.scale(100));
+        NightCycler y = new NightCycler();
+        Night.weigh(y, 7, 5000);
+        y.scale(-1);
+        y.start();
+        Check.same("a refused weight is none", y.state(3), Night.UNKNOWN);
+    }
+
+    /** B behind eight equal weights as the base and eight others. */
+    private static int bookB(int base, int... weights) {
+        NightCycler x = new NightCycler();
+        Night.weigh(x, 8, base);
+        x.start();
+        for (int grams : weights) {
+            x.scale(grams);
+        }
+        return x.state(3);
+    }
+
+    private static void filtered() {
+        Check.same("two least and two greatest left out",
+            bookB(5000, 100000, 4990, 0, 4980, 1, 4970, 99999, 4960), 10 * (5000 - 4975));
+        Check.same("rounded down", bookB(5000, 4990, 4990, 4990, 4991, 4991, 4991, 4991, 4991), 100);
+        Check.same("rounded down from three quarters", bookB(5000, 4990, 4990, 4990, 4991, 4991, 4991, 4992, 4992),
+            100);
+        Check.same("falling", bookB(5000, 4998, 4997, 4996, 4995, 4994, 4993, 4992, 4991), 10 * (5000 - 4994));
+        Check.same("most", bookB(100000, 0, 0, 0, 0, 0, 0, 0, 0), 1000000);
+        Check.same("least", bookB(0, 99999, 99999, 99999, 99999, 99999, 99999, 99999, 99999), -999990);
+        NightCycler x = Night.prescribed(Night.RETAINED, 4321);
+        for (int grams = 5000; grams < 5008; grams++) {
+            x.scale(grams);
+        }
+        x.start();
+        Night.weigh(x, 8, 5003);
+        Check.same("the base is filtered, too", x.state(3), 4321);
+    }
+
+    private static void theLastEight() {
+        Check.same("two new weights are left out", bookB(5000, 4900, 4900), 0);
+        Check.same("a third is not", bookB(5000, 4900, 4900, 4900), 250);
+        Check.same("a sixth is all", bookB(5000, 4900, 4900, 4900, 4900, 4900, 4900), 1000);
+        Check.same("the oldest goes first",
+            bookB(5000, 4900, 4900, 4900, 4900, 4900, 4900, 4900, 4900, 4800, 4800, 4800), 1250);
+    }
+
+    private static void booksAgree() {
+        NightCycler x = Night.weighedInFirstFill();
+        Night.weigh(x, 8, 4980);
+        Check.same("B", x.state(3), 200);
+        Check.same("200 apart with A 0", x.alarm(0), -1);
+        Night.weigh(x, 8, 4979);
+        Check.same("B", x.state(3), 210);
+        Check.same("210 apart", x.alarm(0), 2);
+        Check.same("safe", x.state(6), 1);
+        Check.no("the cause is there", x.lift(2));
+        Night.weigh(x, 8, 5020);
+        Check.same("B", x.state(3), -200);
+        Check.yes("the cause is gone", x.lift(2));
+        Night.weigh(x, 8, 5021);
+        Check.same("210 apart the other way", x.alarm(0), 2);
+    }
+
+    /** Whether the books agree with so much filled by one stroke and such a B, told by the alarm. */
+    private static boolean agree(int filled, int b) {
+        NightCycler x = Night.weighedInFirstFill();
+        int half = b / 20 * 10;
+        Night.weigh(x, 8, 5000 - half / 10);
+        x.stroke(0, filled);
+        Night.weigh(x, 8, 5000 - b / 10);
+        Check.same("A", x.state(2), filled);
+        Check.same("B", x.state(3), b);
+        return x.alarm(0) == -1;
+    }
+
+    private static void booksAgreeRounded() {
+        Check.no("192: 207 is the most", agree(192, 400));
+        Check.yes("193: 207 is the most", agree(193, 400));
+        Check.yes("196: 206 are less than 207", agree(196, -10));
+        Check.yes("200: 208 is the most", agree(200, 0));
+        Check.no("200: 210 is too much", agree(200, -10));
+    }
+
+    private static void booksBelowNothing() {
+        Check.same("A -156: 206 is the most", alarmBehindDrained(156), -1);
+        Check.same("A -157: 207 is too much", alarmBehindDrained(157), 2);
+    }
+
+    private static int alarmBehindDrained(int volume) {
+        NightCycler x = new NightCycler();
+        Night.weigh(x, 8, 5000);
+        x.start();
+        Night.weigh(x, 8, 4995);
+        x.tick(1);
+        x.stroke(0, volume);
+        Check.same("B", x.state(3), 50);
+        return x.alarm(0);
+    }
+
+    private static void notKnownBehindACut() {
+        NightCycler x = Night.weighedInFirstFill();
+        x.cut(6);
+        Check.same("without power", x.state(3), Night.UNKNOWN);
+        x.power(10);
+        Night.weigh(x, 8, 9000);
+        Check.same("there is no base", x.state(3), Night.UNKNOWN);
+        Check.same("so the books agree", x.alarm(0), -1);
+        x.end();
+        x.tick(61);
+        x.start();
+        Check.same("the next therapy has one", x.state(3), 0);
+        NightCycler y = new NightCycler();
+        Night.weigh(y, 8, 5000);
+        y.cut(6);
+        y.power(0);
+        Night.weigh(y, 7, 5000);
+        y.start();
+        Check.same("weights from before the cut are none", y.state(3), Night.UNKNOWN);
+    }
+}
