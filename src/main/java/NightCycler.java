@@ -295,17 +295,18 @@ public final class NightCycler {
             orders = 0;
             return;
         }
-        goOnIfOver();
+        if (isOver()) {
+            beginNext();
+        }
         orders = ordersNow();
         countTick();
     }
 
-    private void goOnIfOver() {
+    private boolean isOver() {
         if (isDraining()) {
-            judgeDrain();
-        } else if (phase == DWELL ? isDwellOver() : isFillOver()) {
-            beginNext();
+            return flow.hasDriedUp() && judgeDrain();
         }
+        return phase == DWELL ? isDwellOver() : isFillOver();
     }
 
     private boolean isDwellOver() {
@@ -327,19 +328,17 @@ public final class NightCycler {
         return bookA > highest || (balance.isKnown() && bookB() > highest);
     }
 
-    private void judgeDrain() {
-        if (!flow.hasDriedUp()) {
-            return;
+    /** Whether the drain is over: one that took too little is tried again once before it is called poor. */
+    private boolean judgeDrain() {
+        if (hasDrainedEnough()) {
+            return true;
         }
-        boolean enough = hasDrainedEnough();
-        if (!enough && !flow.triedAgain) {
+        if (!flow.triedAgain) {
             flow.tryAgain();
-            return;
+            return false;
         }
-        if (!enough) {
-            reports.markPoor(cycle);
-        }
-        beginNext();
+        reports.markPoor(cycle);
+        return true;
     }
 
     private boolean hasDrainedEnough() {
@@ -348,36 +347,36 @@ public final class NightCycler {
     }
 
     private void beginNext() {
+        int next = nextPhase();
+        if (next == FILL) {
+            cycle++;
+            reports.open(cycle);
+        }
+        begin(next);
+    }
+
+    private int nextPhase() {
         switch (phase) {
             case FILL:
-                begin(DWELL);
-                break;
+                return DWELL;
             case DWELL:
-                begin(DRAIN);
-                break;
+                return DRAIN;
             case DRAIN:
-                beginBehindDrain();
-                break;
+                return phaseBehindDrain();
             default:
-                begin(DONE);
-                break;
+                return DONE;
         }
     }
 
     /**
-     * CYCLES may have been prescribed anew when DONE and then a cut led back into the old
+     * CYCLES may have been prescribed anew when DONE, before a cut that led back into the old
      * therapy, so the cycle can be beyond it.
      */
-    private void beginBehindDrain() {
+    private int phaseBehindDrain() {
         if (cycle < prescription.of(Prescription.CYCLES)) {
-            cycle++;
-            reports.open(cycle);
-            begin(FILL);
-        } else if (prescription.of(Prescription.LAST) > 0) {
-            begin(LAST);
-        } else {
-            begin(DONE);
+            return FILL;
         }
+        return prescription.of(Prescription.LAST) > 0 ? LAST : DONE;
     }
 
     private void begin(int next) {

@@ -40,7 +40,9 @@ public final class CutTest {
     private static void allIsAsAtFirst() {
         NightCycler x = Night.weighedInFirstFill(Night.RETAINED, 50);
         Night.moveTimes(x, 2, 90);
+        Night.moveTimes(x, 1, 20);
         x.heat(0, 3600);
+        x.heat(1, 3600);
         x.pause(true);
         x.air(true);
         x.mute();
@@ -52,10 +54,10 @@ public final class CutTest {
         }
         Check.same("no alarm", x.alarm(0), -1);
         Check.same("not mute", x.muted(), 0);
-        Check.same("reports stay", x.report(1, 0), 180);
+        Check.same("reports stay", x.report(1, 0), 200);
         x.power(0);
         Check.same("not paused, no air, warm", x.tick(1), Night.FILL_0);
-        Check.same("the prescription stays", x.state(2), 50 + 180);
+        Check.same("the prescription stays", x.state(2), 50 + 200);
     }
 
     private static void aFillIsTakenUp() {
@@ -70,7 +72,7 @@ public final class CutTest {
         for (int what = 0; what < due.length; what++) {
             Check.same("state(" + what + ")", x.state(what), due[what]);
         }
-        Check.same("chamber 0 is first", x.tick(1), Night.FILL_0);
+        Check.same("chamber 0 is next", x.tick(1), Night.FILL_0);
         x.stroke(0, 99);
         x.tick(1);
         Check.same("499 were filled", x.state(0), Night.FILL);

@@ -2,6 +2,7 @@
 public final class DrainTest {
     public static void main(String[] args) {
         flowOfSixtyTicks();
+        theWindowSlides();
         littleAtTheBeginning();
         triedAgainOnce();
         triedAgainWithNoFlow();
@@ -25,18 +26,43 @@ public final class DrainTest {
         Check.same("60 ticks must have been", y.state(0), Night.DRAIN);
         y.tick(1);
         Check.same("a flow of 99 is below 100", y.state(0), Night.FILL);
-        NightCycler z = Night.started(Night.RETAINED, 2000);
-        Night.moveTimes(z, 1, 60);
-        z.tick(30);
-        Night.moveTimes(z, 1, 40);
-        z.tick(29);
-        Check.same("60 and 40 are 100", z.state(4), 61);
-        Check.same("they flow", z.tick(1), Night.DRAIN_0);
-        z.stroke(0, 60);
-        z.tick(30);
-        Check.same("the window slides", z.state(4), 92);
-        z.tick(28);
-        Check.same("still flowing or tried again", z.state(0), Night.DRAIN);
+    }
+
+    private static void theWindowSlides() {
+        NightCycler x = Night.started(Night.RETAINED, 140, Night.LEAST, 50);
+        Night.moveTimes(x, 1, 60);
+        x.tick(30);
+        Night.moveTimes(x, 1, 40);
+        x.tick(28);
+        Check.same("60 and 40 are 100", x.state(0), Night.DRAIN);
+        Night.moveTimes(x, 1, 60);
+        Check.same("still, behind 61 ticks", x.state(4), 61);
+        x.tick(31);
+        Check.same("40 and 60 are 100", x.state(0), Night.DRAIN);
+        x.tick(1);
+        Check.same("60 are below 100", x.state(0), Night.FILL);
+        NightCycler y = Night.started(Night.RETAINED, 15000, Night.CEILING, 20000);
+        Night.moveTimes(y, 150, 100);
+        y.tick(60);
+        Check.same("the last stroke of a long drain", y.state(0), Night.DRAIN);
+        y.tick(1);
+        Check.same("60 ticks behind it", y.state(0), Night.FILL);
+        Check.same("all was taken", y.report(0, 1), 15000);
+        NightCycler z = Night.started(Night.RETAINED, 15000, Night.CEILING, 20000);
+        Night.moveTimes(z, 60, 2);
+        Check.same("120 behind 60 ticks", z.tick(1), Night.DRAIN_0);
+        z.tick(9);
+        Check.same("102 behind the latest 60", z.state(4), 70);
+        z.stroke(0, 150);
+        z.tick(59);
+        z.pause(true);
+        z.end();
+        z.tick(60);
+        Check.same("END has its own 60 ticks", z.state(0), Night.END);
+        z.tick(60);
+        Check.same("and is tried again", z.state(0), Night.END);
+        z.tick(1);
+        Check.same("with no flow of what was before", z.state(0), Night.DONE);
     }
 
     private static void littleAtTheBeginning() {

@@ -44,6 +44,7 @@ public final class NewObjectTest {
         x.tick(61);
         Check.same("LEAST is 80: 1600 of 2000 are enough", x.state(0), Night.FILL);
         Check.same("not poor", x.report(1, 3), 0);
+        fillAndLeastAtFirst();
         ceilingAtFirst();
         nightAtFirst();
         cyclesAndLastAtFirst();
@@ -60,6 +61,27 @@ public final class NewObjectTest {
         Night.prescribed(Night.DWELL_MINUTES, 20).start();
         NightCycler y = Night.prescribed(Night.DWELL_MINUTES, 21);
         Check.unsupported("NIGHT is 60, CYCLES 3", () -> y.start());
+        NightCycler z = Night.prescribed(Night.CYCLES, 1, Night.DWELL_MINUTES, 61);
+        Check.unsupported("NIGHT is 60", () -> z.start());
+    }
+
+    private static void fillAndLeastAtFirst() {
+        NightCycler x = Night.inFirstFill();
+        Night.moveTimes(x, 9, 200);
+        Night.moveTimes(x, 1, 199);
+        x.tick(1);
+        Check.same("FILL is not 1999", x.state(0), Night.FILL);
+        x.stroke(0, 1);
+        x.tick(240);
+        Night.moveTimes(x, 7, 200);
+        Night.moveTimes(x, 1, 199);
+        x.tick(61);
+        Check.same("1599 of 2000 are not LEAST", x.state(0), Night.DRAIN);
+        x.tick(59);
+        Check.same("it is tried again", x.state(0), Night.DRAIN);
+        x.tick(1);
+        Check.same("and over", x.state(0), Night.FILL);
+        Check.same("poor", x.report(1, 3), 1);
     }
 
     private static void cyclesAndLastAtFirst() {

@@ -6,6 +6,8 @@ public final class ScaleTest {
         theLastEight();
         booksAgree();
         booksAgreeRounded();
+        booksFarFromNothing();
+        retainedPrescribedAnewWhenDone();
         booksBelowNothing();
         notKnownBehindACut();
         Check.finish();
@@ -100,6 +102,37 @@ public final class ScaleTest {
         Check.yes("196: 206 are less than 207", agree(196, -10));
         Check.yes("200: 208 is the most", agree(200, 0));
         Check.no("200: 210 is too much", agree(200, -10));
+    }
+
+    private static void booksFarFromNothing() {
+        NightCycler x = Night.prescribed(Night.RETAINED, 2500);
+        Night.weigh(x, 8, 5000);
+        x.start();
+        Night.weigh(x, 8, 4970);
+        Check.same("B", x.state(3), 2800);
+        Check.same("300 apart with A 2500", x.alarm(0), -1);
+        x.tick(1);
+        x.stroke(0, 1);
+        Check.same("301 apart, 299 is the most", x.alarm(0), 2);
+    }
+
+    private static void retainedPrescribedAnewWhenDone() {
+        NightCycler x = new NightCycler();
+        Night.weigh(x, 8, 5000);
+        x.start();
+        x.end();
+        x.tick(61);
+        x.prescribe(Night.RETAINED, 201);
+        Check.same("B is reckoned with it", x.state(3), 201);
+        Check.same("nobody has looked", x.alarm(0), -1);
+        x.tick(1);
+        Check.same("a tick looks at causes", x.alarm(0), 2);
+        x.prescribe(Night.RETAINED, 200);
+        Check.yes("the cause is gone", x.lift(2));
+        x.prescribe(Night.RETAINED, 2000);
+        x.start();
+        x.tick(1);
+        Check.same("A is RETAINED then, too", x.alarm(0), -1);
     }
 
     private static void booksBelowNothing() {
