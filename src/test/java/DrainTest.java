@@ -10,6 +10,12 @@ public final class DrainTest {
         leastPercent();
         endIsJudgedLikewise();
         standingStillDoesNotCount();
+        fiftyNineTicksAndSixty();
+        flowOfTheSecondTry();
+        leastBehindTheSecondTry();
+        noFlowFromBefore();
+        littleTakenFromLittle();
+        behindADrain();
         Check.finish();
     }
 
@@ -191,5 +197,150 @@ public final class DrainTest {
         Check.same("ticks with the line blocked do count", y.state(4), 120);
         y.tick(1);
         Check.same("over", y.state(0), Night.FILL);
+    }
+
+    /** One tick short of 60 a drain is never over, whatever was taken and however little there was. */
+    private static void fiftyNineTicksAndSixty() {
+        for (int retained : new int[] {0, 99, 100, 1000}) {
+            NightCycler x = Night.started(Night.RETAINED, retained);
+            x.tick(59);
+            Check.same("59 ticks of " + retained, x.state(4), 59);
+            x.tick(1);
+            Check.same("60 ticks of " + retained, x.state(4), 60);
+            Check.same("not over before tick 61", x.state(0), Night.DRAIN);
+            x.tick(1);
+            Check.same("over at tick 61, or tried again", x.state(0), retained < 100 ? Night.FILL : Night.DRAIN);
+            x.tick(59);
+            Check.same("59 ticks behind it", x.state(0), retained < 100 ? Night.FILL : Night.DRAIN);
+            x.tick(1);
+            Check.same("60 ticks behind it", x.state(0), Night.FILL);
+            Check.same("poor", x.report(0, 3), retained < 100 ? 0 : 1);
+        }
+    }
+
+    /** In the second try's first tick, of 1000 so much taken already. */
+    private static NightCycler triedAgain(int taken) {
+        NightCycler x = Night.started(Night.RETAINED, 1000);
+        x.tick(1);
+        x.stroke(0, taken);
+        x.tick(59);
+        Check.same("60 ticks", x.state(4), 60);
+        x.tick(1);
+        Check.same("tried again", x.state(0), Night.DRAIN);
+        return x;
+    }
+
+    private static void flowOfTheSecondTry() {
+        NightCycler below = triedAgain(99);
+        below.stroke(1, 99);
+        below.tick(59);
+        Check.same("59 more", below.state(0), Night.DRAIN);
+        below.tick(1);
+        Check.same("a flow of 99", below.state(0), Night.FILL);
+        NightCycler enough = triedAgain(99);
+        enough.stroke(1, 100);
+        enough.tick(60);
+        Check.same("a flow of 100", enough.state(0), Night.DRAIN);
+        enough.tick(1);
+        Check.same("till it is behind 60 ticks", enough.state(0), Night.FILL);
+        NightCycler lasting = triedAgain(0);
+        for (int i = 0; i < 5; i++) {
+            lasting.stroke((i + 1) % 2, 100);
+            lasting.tick(60);
+            Check.same("as long as it flows", lasting.state(0), Night.DRAIN);
+        }
+        lasting.tick(1);
+        Check.same("but there is no third try", lasting.state(0), Night.FILL);
+        Check.same("poor with 500 of 1000", lasting.report(0, 3), 1);
+    }
+
+    private static void leastBehindTheSecondTry() {
+        for (int rest : new int[] {100, 101}) {
+            NightCycler x = triedAgain(99);
+            x.stroke(1, 200);
+            Night.moveTimes(x, 2, 200);
+            Night.moveTimes(x, 1, rest);
+            x.tick(61);
+            Check.same("over", x.state(0), Night.FILL);
+            Check.same("taken", x.report(0, 1), 699 + rest);
+            Check.same("poor with 799, not with 800", x.report(0, 3), rest == 100 ? 1 : 0);
+        }
+    }
+
+    /** A flow of 100 goes on, though as much had flowed in the same ticks of what was before. */
+    private static void noFlowFromBefore() {
+        NightCycler end = Night.started(Night.RETAINED, 5000);
+        Night.moveTimes(end, 70, 50);
+        end.end();
+        flowsOn("END behind DRAIN", end, false);
+        NightCycler cut = Night.started(Night.RETAINED, 5000);
+        Night.moveTimes(cut, 70, 50);
+        cut.cut(6);
+        cut.power(0);
+        flowsOn("DRAIN behind a cut", cut, false);
+        NightCycler again = Night.started(Night.RETAINED, 1000);
+        Night.moveTimes(again, 33, 3);
+        again.tick(27);
+        Check.same("60 ticks, 99 taken", again.state(5), 99);
+        flowsOn("the second try", again, true);
+        NightCycler next = Night.started(Night.FILL_VOLUME, 500, Night.RETAINED, 99);
+        Night.moveTimes(next, 60, 1);
+        next.tick(1);
+        Check.same("FILL", next.state(0), Night.FILL);
+        next.stroke(0, 200);
+        Night.moveTimes(next, 2, 200);
+        next.tick(240);
+        flowsOn("the next DRAIN", next, false);
+    }
+
+    /** The next tick is the first of 60; too little is taken, so behind one more dry tick it is tried again. */
+    private static void flowsOn(String where, NightCycler x, boolean triedAlready) {
+        Night.moveTimes(x, 10, 10);
+        int phase = x.state(0);
+        x.tick(51 + (triedAlready ? 0 : 60));
+        Check.same(where + ": 100 flowed behind the first 60 ticks", x.state(0), phase);
+        x.tick(1);
+        Check.no(where + ": 90 behind the next", x.state(0) == phase);
+    }
+
+    private static void littleTakenFromLittle() {
+        NightCycler nothing = Night.started(Night.RETAINED, 99, Night.LEAST, 100);
+        nothing.tick(61);
+        Check.same("nothing of 99", nothing.state(0), Night.FILL);
+        Check.same("is not poor", nothing.report(0, 3), 0);
+        NightCycler all = Night.started(Night.RETAINED, 100, Night.LEAST, 100);
+        Night.moveTimes(all, 1, 100);
+        all.tick(61);
+        Check.same("all of 100", all.state(0), Night.FILL);
+        Check.same("is not poor", all.report(0, 3), 0);
+        NightCycler most = Night.started(Night.RETAINED, 100, Night.LEAST, 100);
+        Night.moveTimes(most, 1, 99);
+        most.tick(60);
+        Check.same("99 of 100: tried again", most.state(0), Night.DRAIN);
+        most.tick(60);
+        Check.same("over", most.state(0), Night.FILL);
+        Check.same("99 of 100 are poor", most.report(0, 3), 1);
+    }
+
+    /** Behind the drain of each cycle but the last FILL, behind that LAST if it is above 0, else DONE. */
+    private static void behindADrain() {
+        for (int last = 0; last <= 1; last++) {
+            NightCycler x = Night.started(Night.CYCLES, 2, Night.FILL_VOLUME, 500, Night.LAST_VOLUME, last);
+            x.tick(61);
+            for (int cycle = 1; cycle <= 2; cycle++) {
+                Check.same("FILL", x.state(0), Night.FILL);
+                Check.same("its cycle", x.state(1), cycle);
+                x.stroke(0, 200);
+                Night.moveTimes(x, 2, 150);
+                x.tick(1);
+                Check.same("DWELL behind FILL", x.state(0), Night.DWELL);
+                x.tick(240);
+                Check.same("DRAIN behind DWELL", x.state(0), Night.DRAIN);
+                Check.same("of the same cycle", x.state(1), cycle);
+                x.tick(120);
+            }
+            Check.same("LAST of " + last, x.state(0), last == 0 ? Night.DONE : Night.LAST);
+            Check.same("the cycle stays", x.state(1), 2);
+        }
     }
 }

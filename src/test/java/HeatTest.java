@@ -4,6 +4,8 @@ public final class HeatTest {
         refused();
         within();
         apart();
+        leastAndGreatest();
+        sensorsAlone();
         Check.finish();
     }
 
@@ -55,5 +57,36 @@ public final class HeatTest {
         Check.no("151 apart", isGone(3600, 3751));
         Check.yes("150 apart the other way", isGone(3750, 3600));
         Check.no("151 apart the other way", isGone(3751, 3600));
+    }
+
+    private static void leastAndGreatest() {
+        for (int sensor = 0; sensor < 2; sensor++) {
+            NightCycler x = new NightCycler();
+            Check.no("-5001", x.heat(sensor, -5001));
+            Check.no("10001", x.heat(sensor, 10001));
+            Check.same("neither was told", x.alarm(0), -1);
+            Check.yes("-5000", x.heat(sensor, -5000));
+            Check.same("told", x.alarm(0), 3);
+            Check.yes("3700", x.heat(sensor, 3700));
+            Check.yes("lifted", x.lift(3));
+            Check.yes("10000", x.heat(sensor, 10000));
+            Check.same("told", x.alarm(0), 3);
+            Check.no("refused, so the cause is still there", x.heat(sensor, 10001) || x.lift(3));
+        }
+    }
+
+    /** Each sensor is kept for itself: one within does not mend the other. */
+    private static void sensorsAlone() {
+        NightCycler x = new NightCycler();
+        x.heat(0, 4200);
+        x.heat(1, 4100);
+        Check.no("sensor 0 is beyond still", x.lift(3));
+        x.heat(0, 4100);
+        Check.yes("now it is not", x.lift(3));
+        x.heat(1, 4101);
+        x.heat(0, 4000);
+        Check.no("sensor 1 is beyond", x.lift(3));
+        x.heat(1, 4100);
+        Check.yes("now it is not", x.lift(3));
     }
 }

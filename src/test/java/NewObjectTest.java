@@ -14,6 +14,8 @@ public final class NewObjectTest {
         Check.same("no alarm behind a tick", x.alarm(0), -1);
         sensorsAtFirst();
         prescriptionAtFirst();
+        nothingStandsInTheWay();
+        firstValues();
         Check.finish();
     }
 
@@ -100,5 +102,35 @@ public final class NewObjectTest {
         }
         Check.same("DONE", x.state(0), Night.DONE);
         Check.same("CYCLES is 3", phases, 3);
+    }
+
+    private static void nothingStandsInTheWay() {
+        NightCycler x = new NightCycler();
+        for (int alarm = 0; alarm < 5; alarm++) {
+            Check.no("no alarm to lift", x.lift(alarm));
+        }
+        x.start();
+        Check.same("the line is free, the door shut, no air", x.tick(1), Night.DRAIN_0);
+        Check.same("no heater at 3700, the target being 3700", x.tick(1) & Night.HEATER, 0);
+        NightCycler colder = new NightCycler();
+        colder.start();
+        colder.heat(0, 3649);
+        Check.same("TARGET is not below 3700", colder.tick(1) & Night.HEATER, Night.HEATER);
+        NightCycler warmer = new NightCycler();
+        warmer.start();
+        warmer.heat(0, 3650);
+        Check.same("nor above", warmer.tick(1) & Night.HEATER, 0);
+        NightCycler eighth = new NightCycler();
+        Night.weigh(eighth, 7, 5000);
+        eighth.start();
+        Check.same("no weight was there", eighth.state(3), Night.UNKNOWN);
+    }
+
+    private static void firstValues() {
+        NightCycler last = Night.prescribed(Night.CEILING, 2000);
+        last.start();
+        Check.same("FILL is at most 2000, RETAINED 0", last.state(2), 0);
+        NightCycler fill = Night.prescribed(Night.CEILING, 1999);
+        Check.unsupported("FILL is at least 2000", () -> fill.start());
     }
 }

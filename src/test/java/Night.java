@@ -79,6 +79,21 @@ final class Night {
         return x;
     }
 
+    /** Tells a cause, or that it is gone; that of the books needs a B that is known and about A. */
+    static void cause(NightCycler x, int rank, boolean there) {
+        if (rank == 0) {
+            x.air(there);
+        } else if (rank == 1) {
+            x.door(!there);
+        } else if (rank == 2) {
+            weigh(x, 8, there ? 6000 : 5000);
+        } else if (rank == 3) {
+            x.heat(0, there ? 4101 : 3700);
+        } else {
+            x.line(there);
+        }
+    }
+
     static NightCycler done() {
         NightCycler x = started(CYCLES, 1);
         x.end();

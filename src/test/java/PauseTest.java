@@ -5,6 +5,7 @@ public final class PauseTest {
         nothingGoesOn();
         aStrokeOfTheLatestTickIsStillAccepted();
         theHeaterBeginsOff();
+        inEachPhase();
         Check.finish();
     }
 
@@ -70,5 +71,39 @@ public final class PauseTest {
         x.tick(1);
         x.pause(false);
         Check.same("it was off in the paused tick", x.tick(1), Night.FILL_0);
+    }
+
+    private static void inEachPhase() {
+        NightCycler x = Night.started(Night.CYCLES, 1, Night.FILL_VOLUME, 500, Night.LAST_VOLUME, 300);
+        pausedIn(x, Night.DRAIN);
+        x.tick(61);
+        pausedIn(x, Night.FILL);
+        Night.moveTimes(x, 3, 200);
+        x.tick(1);
+        pausedIn(x, Night.DWELL);
+        x.tick(240);
+        pausedIn(x, Night.DRAIN);
+        Night.moveTimes(x, 3, 200);
+        x.tick(61);
+        pausedIn(x, Night.LAST);
+        x.end();
+        pausedIn(x, Night.END);
+        x.tick(61);
+        Check.same("DONE", x.state(0), Night.DONE);
+        Check.badState("DONE", () -> x.pause(false));
+    }
+
+    private static void pausedIn(NightCycler x, int phase) {
+        Check.same("phase", x.state(0), phase);
+        x.pause(true);
+        Check.same("paused in " + phase, x.state(7), 1);
+        int ticks = x.state(4);
+        Check.same("nothing is ordered in " + phase, x.tick(300), 0);
+        Check.same("no tick in " + phase, x.state(4), ticks);
+        Check.same("no other phase than " + phase, x.state(0), phase);
+        x.pause(false);
+        Check.same("not paused in " + phase, x.state(7), 0);
+        x.pause(false);
+        Check.same("nor twice", x.state(7), 0);
     }
 }

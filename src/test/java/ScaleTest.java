@@ -10,6 +10,11 @@ public final class ScaleTest {
         retainedPrescribedAnewWhenDone();
         booksBelowNothing();
         notKnownBehindACut();
+        leastAndGreatestWeight();
+        meanRoundedDown();
+        sevenWeightsAndEight();
+        booksAtTheEdge();
+        eachSideOfAWindow();
         Check.finish();
     }
 
@@ -170,5 +175,97 @@ public final class ScaleTest {
         Night.weigh(y, 7, 5000);
         y.start();
         Check.same("weights from before the cut are none", y.state(3), Night.UNKNOWN);
+    }
+
+    private static void leastAndGreatestWeight() {
+        Check.same("0 grams are a weight", bookB(10, 0, 0, 0, 0, 0, 0, 0, 0), 100);
+        Check.same("100000 grams are a weight",
+            bookB(99990, 100000, 100000, 100000, 100000, 100000, 100000, 100000, 100000), -100);
+        NightCycler x = new NightCycler();
+        Night.weigh(x, 8, 5000);
+        x.start();
+        Night.weigh(x, 8, -1);
+        Night.weigh(x, 8, 100001);
+        Check.same("neither -1 nor 100001 are", x.state(3), 0);
+    }
+
+    /** The four in the middle are 4990 and as much more as told, together. */
+    private static int bookBWithMiddleMore(int more) {
+        int[] weights = {4980, 4981, 4990, 4990, 4990, 4990 + more, 5200, 5300};
+        return bookB(5000, weights);
+    }
+
+    private static void meanRoundedDown() {
+        Check.same("no rest", bookBWithMiddleMore(0), 100);
+        Check.same("a quarter", bookBWithMiddleMore(1), 100);
+        Check.same("a half", bookBWithMiddleMore(2), 100);
+        Check.same("three quarters", bookBWithMiddleMore(3), 100);
+        Check.same("a whole", bookBWithMiddleMore(4), 90);
+    }
+
+    private static void sevenWeightsAndEight() {
+        for (int before = 0; before <= 9; before++) {
+            NightCycler x = Night.prescribed(Night.RETAINED, 50);
+            Night.weigh(x, before, 5000);
+            Check.same("no therapy has started", x.state(3), Night.UNKNOWN);
+            x.start();
+            Check.same(before + " weights", x.state(3), before < 8 ? Night.UNKNOWN : 50);
+            Night.weigh(x, 9, 5000);
+            Check.same("more of them behind the start of " + before, x.state(3), before < 8 ? Night.UNKNOWN : 50);
+            x.end();
+            x.tick(61);
+            Check.same("DONE", x.state(0), Night.DONE);
+            x.start();
+            Check.same("at the next start all have come", x.state(3), 50);
+        }
+        for (int behind = 7; behind <= 8; behind++) {
+            NightCycler x = new NightCycler();
+            Night.weigh(x, 8, 5000);
+            x.cut(6);
+            Night.weigh(x, 8, 5000);
+            x.power(0);
+            Night.weigh(x, behind, 5000);
+            x.start();
+            Check.same(behind + " since power came", x.state(3), behind < 8 ? Night.UNKNOWN : 0);
+        }
+    }
+
+    /** The alarm with A as told (all of it retained at first but for one stroke) and B so far above it. */
+    private static int alarmWith(int a, int above) {
+        int took = Math.floorMod(above, 10);
+        NightCycler x = Night.prescribed(Night.RETAINED, a + took, Night.CEILING, 20000);
+        Night.weigh(x, 8, 5000);
+        x.start();
+        Night.weigh(x, 8, 5000 - (above - took) / 20);
+        x.tick(1);
+        x.stroke(0, took);
+        Night.weigh(x, 8, 5000 - (above - took) / 10);
+        Check.same("A", x.state(2), a);
+        Check.same("B", x.state(3), a + above);
+        return x.alarm(0);
+    }
+
+    private static void booksAtTheEdge() {
+        int[][] mostByA = {{0, 200}, {24, 200}, {25, 201}, {49, 201}, {50, 202}, {99, 203}, {100, 204},
+            {2474, 298}, {2475, 299}, {2499, 299}, {2500, 300}, {9999, 599}, {10000, 600}, {19900, 996}};
+        for (int[] pair : mostByA) {
+            Check.same("A " + pair[0] + ", as far above as may be", alarmWith(pair[0], pair[1]), -1);
+            Check.same("A " + pair[0] + ", one farther", alarmWith(pair[0], pair[1] + 1), 2);
+            Check.same("A " + pair[0] + ", as far below as may be", alarmWith(pair[0], -pair[1]), -1);
+            Check.same("A " + pair[0] + ", one farther below", alarmWith(pair[0], -pair[1] - 1), 2);
+        }
+    }
+
+    /** Of ever heavier weights the last eight count: the third to the sixth of them by size. */
+    private static void eachSideOfAWindow() {
+        NightCycler x = new NightCycler();
+        for (int grams = 1; grams <= 8; grams++) {
+            x.scale(grams);
+        }
+        x.start();
+        for (int grams = 9; grams <= 40; grams++) {
+            x.scale(grams);
+            Check.same("behind " + grams, x.state(3), 10 * (4 - (grams - 4)));
+        }
     }
 }

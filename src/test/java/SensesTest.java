@@ -5,6 +5,7 @@ public final class SensesTest {
         door();
         line();
         withoutPower();
+        toldTwice();
         Check.finish();
     }
 
@@ -80,5 +81,21 @@ public final class SensesTest {
         Check.same("nor was before", x.alarm(0), -1);
         x.start();
         Check.same("the line is free", x.tick(1), Night.DRAIN_0);
+    }
+
+    private static void toldTwice() {
+        for (int cause : new int[] {0, 1, 4}) {
+            NightCycler x = Night.inFirstFill();
+            Night.cause(x, cause, true);
+            Night.cause(x, cause, true);
+            Check.same("one alarm " + cause, x.alarm(0), cause);
+            Check.same("not two", x.alarm(1), -1);
+            Night.cause(x, cause, false);
+            Night.cause(x, cause, false);
+            Check.yes("gone is gone", x.lift(cause));
+            Check.same("none is left", x.alarm(0), -1);
+            Night.cause(x, cause, false);
+            Check.same("and none comes", x.alarm(0), -1);
+        }
     }
 }

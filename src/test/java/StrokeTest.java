@@ -7,6 +7,9 @@ public final class StrokeTest {
         booksAndPages();
         whereNothingMoves();
         causesAreLookedAt();
+        inEachPhase();
+        leastAndMost();
+        onlyTheLatestTick();
         Check.finish();
     }
 
@@ -106,5 +109,69 @@ public final class StrokeTest {
         x.stroke(0, 9);
         Check.same("209 apart", x.alarm(0), 2);
         Check.same("safe", x.state(6), 1);
+    }
+
+    private static void inEachPhase() {
+        NightCycler x = Night.prescribed(Night.CYCLES, 1, Night.FILL_VOLUME, 500, Night.LAST_VOLUME, 300,
+            Night.RETAINED, 100);
+        Check.no("IDLE", x.stroke(0, 1));
+        x.start();
+        Check.no("before the first tick", x.stroke(0, 1));
+        x.tick(1);
+        Check.yes("DRAIN", x.stroke(0, 100));
+        Check.same("takes from A", x.state(2), 0);
+        x.tick(61);
+        Check.yes("FILL", x.stroke(0, 200));
+        Check.same("adds to A", x.state(2), 200);
+        Night.moveTimes(x, 2, 200);
+        x.tick(1);
+        Check.no("DWELL", x.stroke(0, 1));
+        Check.no("DWELL, chamber 1", x.stroke(1, 1));
+        x.tick(240);
+        Check.yes("DRAIN of a cycle", x.stroke(0, 200));
+        Night.moveTimes(x, 2, 200);
+        x.tick(61);
+        Check.yes("LAST", x.stroke(0, 200));
+        Check.same("adds to A", x.state(2), 200);
+        x.end();
+        Check.no("before the first tick of END", x.stroke(1, 1));
+        x.tick(1);
+        Check.yes("END", x.stroke(0, 200));
+        Check.same("takes from A", x.state(2), 0);
+        x.tick(61);
+        Check.no("DONE", x.stroke(0, 1));
+        Check.no("DONE, chamber 1", x.stroke(1, 1));
+    }
+
+    private static void leastAndMost() {
+        for (int volume : new int[] {0, 1, 199, 200}) {
+            NightCycler x = Night.inFirstFill();
+            Check.yes("volume " + volume, x.stroke(0, volume));
+            Check.same("filled", x.state(5), volume);
+            Check.same("A", x.state(2), volume);
+            Check.no("none since that tick, even of " + volume, x.stroke(0, volume));
+            Check.same("the other chamber is next", x.tick(1), Night.FILL_1);
+        }
+        for (int volume : new int[] {-1, 201}) {
+            NightCycler x = Night.inFirstFill();
+            Check.no("volume " + volume, x.stroke(0, volume));
+            Check.same("nothing filled", x.state(5), 0);
+            Check.same("it is chamber 0's turn still", x.tick(1), Night.FILL_0);
+        }
+    }
+
+    private static void onlyTheLatestTick() {
+        NightCycler x = Night.inFirstFill();
+        Check.same("moves", x.tick(3), Night.FILL_0);
+        Check.yes("one stroke for three ticks", x.stroke(0, 1));
+        Check.no("not three", x.stroke(0, 1));
+        x.tick(2);
+        x.line(true);
+        x.tick(1);
+        Check.no("the tick before the latest moved", x.stroke(1, 1));
+        x.line(false);
+        Check.no("free, but the latest tick did not move", x.stroke(1, 1));
+        x.tick(1);
+        Check.yes("now it did", x.stroke(1, 1));
     }
 }

@@ -13,6 +13,13 @@ public final class TickTest {
         safeState();
         heater();
         heaterInEachPhase();
+        oneAndFiveThousand();
+        onePhaseInATick();
+        vetoInLast();
+        ticksThatDoNotCount();
+        heaterAtTheEdgesOfHeat();
+        heaterBetweenTheLimits();
+        chamberZeroFirstInEachPhase();
         Check.finish();
     }
 
@@ -107,9 +114,10 @@ public final class TickTest {
         Check.same("so FILL is over", y.state(0), Night.DWELL);
     }
 
-    /** In FILL with A 700 and both books at work, the last weights being as told. */
-    private static NightCycler filledTo700(int grams) {
-        NightCycler x = Night.weighedInFirstFill(Night.CEILING, 1000, Night.FILL_VOLUME, 1000);
+    /** In FILL behind 700, with both books at work, the last weights being as told. */
+    private static NightCycler filledBy700(int retained, int grams) {
+        NightCycler x = Night.weighedInFirstFill(Night.CEILING, 1000, Night.FILL_VOLUME, 1000,
+            Night.RETAINED, retained);
         for (int i = 1; i <= 3; i++) {
             Night.moveTimes(x, 1, 200);
             Night.weigh(x, 8, 5000 - 20 * i);
@@ -120,13 +128,13 @@ public final class TickTest {
     }
 
     private static void vetoByBookB() {
-        NightCycler x = filledTo700(4920);
+        NightCycler x = filledBy700(0, 4920);
         Check.same("B", x.state(3), 800);
         Check.same("800 and 200 are not more than 1000", x.tick(1), Night.FILL_0);
-        NightCycler y = filledTo700(4919);
-        Check.same("B", y.state(3), 810);
+        NightCycler y = filledBy700(1, 4920);
+        Check.same("B", y.state(3), 801);
         Check.same("the books agree", y.alarm(0), -1);
-        Check.same("810 and 200 are", y.tick(1), 0);
+        Check.same("801 and 200 are", y.tick(1), 0);
         Check.same("so FILL is over", y.state(0), Night.DWELL);
     }
 
@@ -264,5 +272,155 @@ public final class TickTest {
         Check.same("the tick in which DONE begins gives orders as any", x.tick(1), Night.HEATER);
         Check.same("DONE", x.state(0), Night.DONE);
         Check.same("later ones do not", x.tick(1), 0);
+    }
+
+    private static void oneAndFiveThousand() {
+        NightCycler x = Night.inFirstFill();
+        Check.same("the first tick of FILL", x.state(4), 1);
+        x.tick(1);
+        Check.same("one more", x.state(4), 2);
+        x.tick(5000);
+        Check.same("5000 more", x.state(4), 5002);
+        Check.badArgument("0", () -> x.tick(0));
+        Check.badArgument("5001", () -> x.tick(5001));
+        Check.same("none of these", x.state(4), 5002);
+    }
+
+    /** Nothing flows and all fills are vetoed, so each phase is as short as it can be. */
+    private static void onePhaseInATick() {
+        NightCycler x = Night.started(Night.CYCLES, 2, Night.CEILING, 1000, Night.FILL_VOLUME, 500,
+            Night.LAST_VOLUME, 500, Night.RETAINED, 900);
+        int[] phases = {Night.DRAIN, Night.FILL, Night.DWELL, Night.DRAIN, Night.FILL, Night.DWELL, Night.DRAIN,
+            Night.LAST};
+        int[] lengths = {120, 1, 240, 120, 1, 240, 120, 1};
+        for (int i = 0; i < phases.length; i++) {
+            x.tick(1);
+            Check.same("phase " + i, x.state(0), phases[i]);
+            Check.same("its first tick", x.state(4), 1);
+            if (lengths[i] > 1) {
+                x.tick(lengths[i] - 1);
+                Check.same("phase " + i + " till its last tick", x.state(0), phases[i]);
+                Check.same("its last tick", x.state(4), lengths[i]);
+            }
+        }
+        x.tick(1);
+        Check.same("DONE at last", x.state(0), Night.DONE);
+    }
+
+    private static void vetoInLast() {
+        for (int rest = 0; rest <= 1; rest++) {
+            NightCycler x = behindTheLastDrain(1000);
+            Check.same("LAST", x.state(0), Night.LAST);
+            Night.moveTimes(x, 4, 200);
+            Night.moveTimes(x, 1, rest);
+            Check.same("800 and 801 of 1000", x.tick(1), rest == 0 ? Night.FILL_1 : 0);
+            Check.same("the phase", x.state(0), rest == 0 ? Night.LAST : Night.DONE);
+        }
+        for (int taken = 99; taken <= 100; taken++) {
+            NightCycler x = Night.inFirstFill(Night.CYCLES, 1, Night.FILL_VOLUME, 900, Night.CEILING, 1000,
+                Night.LAST_VOLUME, 1);
+            Night.moveTimes(x, 3, 200);
+            Night.moveTimes(x, 2, 150);
+            x.tick(240);
+            Night.moveTimes(x, 1, taken);
+            x.tick(taken == 99 ? 119 : 120);
+            Check.same("DRAIN, tried again", x.state(0), Night.DRAIN);
+            Check.same("A of 801 is vetoed, of 800 is not", x.tick(1), taken == 99 ? 0 : Night.FILL_0);
+            Check.same("LAST begins with either", x.state(0), Night.LAST);
+            x.tick(1);
+            Check.same("and is over where it is vetoed", x.state(0), taken == 99 ? Night.DONE : Night.LAST);
+        }
+    }
+
+    private static void ticksThatDoNotCount() {
+        NightCycler idle = new NightCycler();
+        idle.line(true);
+        idle.mute();
+        Check.same("IDLE", idle.tick(7), 0);
+        Check.same("no ticks of a phase", idle.state(4), 0);
+        Check.same("but mutes run down", idle.muted(), 473);
+        NightCycler done = Night.done();
+        done.line(true);
+        done.mute();
+        int ticks = done.state(4);
+        Check.same("DONE", done.tick(7), 0);
+        Check.same("no ticks of a phase", done.state(4), ticks);
+        Check.same("but mutes run down", done.muted(), 473);
+        NightCycler safe = Night.inFirstFill();
+        safe.door(false);
+        safe.mute();
+        Check.same("safe", safe.tick(7), 0);
+        Check.same("no ticks of a phase", safe.state(4), 1);
+        Check.same("but mutes run down", safe.muted(), 473);
+        NightCycler paused = Night.inFirstFill();
+        paused.line(true);
+        paused.mute();
+        paused.pause(true);
+        Check.same("paused", paused.tick(7), 0);
+        Check.same("no ticks of a phase", paused.state(4), 1);
+        Check.same("but mutes run down", paused.muted(), 473);
+        paused.pause(false);
+        paused.tick(1);
+        Check.same("a blocked line's tick is one", paused.state(4), 2);
+    }
+
+    private static boolean heatsAt(int first, int second) {
+        NightCycler x = Night.started();
+        x.heat(0, first);
+        x.heat(1, second);
+        return (x.tick(1) & Night.HEATER) != 0;
+    }
+
+    private static void heaterAtTheEdgesOfHeat() {
+        Check.yes("1500", heatsAt(1500, 1500));
+        Check.no("1499 is a cause", heatsAt(1499, 1500));
+        Check.no("1499 is one in sensor 1, too", heatsAt(1500, 1499));
+        Check.yes("150 apart", heatsAt(3640, 3790));
+        Check.no("151 apart is a cause", heatsAt(3640, 3791));
+        Check.no("151 apart the other way", heatsAt(3791, 3640));
+        NightCycler hot = Night.started(Night.TARGET, 3900);
+        hot.heat(0, 4101);
+        hot.heat(1, 4101);
+        hot.tick(1);
+        Check.no("4101 is a cause", hot.lift(3));
+        hot.heat(0, 4100);
+        hot.heat(1, 4100);
+        Check.same("4100 is none, but warm", hot.tick(1), Night.DRAIN_0);
+        Check.yes("and the alarm is lifted", hot.lift(3));
+    }
+
+    private static void heaterBetweenTheLimits() {
+        for (int heat = 3648; heat <= 3702; heat++) {
+            NightCycler off = Night.started();
+            off.heat(0, heat);
+            Check.same("off before, " + heat, off.tick(1) & Night.HEATER, heat < 3650 ? Night.HEATER : 0);
+            NightCycler on = Night.started();
+            on.heat(0, 3600);
+            on.tick(1);
+            on.heat(0, heat);
+            on.heat(1, heat);
+            Check.same("on before, " + heat, on.tick(1) & Night.HEATER, heat <= 3700 ? Night.HEATER : 0);
+        }
+    }
+
+    private static void chamberZeroFirstInEachPhase() {
+        NightCycler x = Night.started(Night.CYCLES, 1, Night.FILL_VOLUME, 500, Night.LAST_VOLUME, 100,
+            Night.RETAINED, 150);
+        Check.same("DRAIN", x.tick(1), Night.DRAIN_0);
+        x.stroke(0, 150);
+        Check.same("the other one", x.tick(60), Night.DRAIN_1);
+        Check.same("FILL", x.tick(1), Night.FILL_0);
+        x.stroke(0, 200);
+        Night.moveTimes(x, 2, 200);
+        x.tick(240);
+        Check.same("DRAIN again", x.tick(1), Night.DRAIN_0);
+        x.stroke(0, 200);
+        Night.moveTimes(x, 2, 200);
+        x.tick(60);
+        Check.same("LAST", x.tick(1), Night.FILL_0);
+        x.stroke(0, 50);
+        Check.same("the other one", x.tick(1), Night.FILL_1);
+        x.end();
+        Check.same("END", x.tick(1), Night.DRAIN_0);
     }
 }
