@@ -125,6 +125,25 @@ public final class RefusedTest {
         RefusedTest done = new RefusedTest("DONE", Night.DONE, () -> done());
         done.begun = 2;
         done.tryAll();
+        notStartableWhenDone("DONE and unsound", 0, () -> {
+            NightCycler x = done();
+            x.prescribe(Night.CEILING, 1000);
+            x.prescribe(Night.FILL_VOLUME, 1001);
+            return x;
+        });
+        notStartableWhenDone("DONE with the line blocked", 1 << 4, () -> {
+            NightCycler x = done();
+            x.line(true);
+            return x;
+        });
+    }
+
+    private static void notStartableWhenDone(String name, int standing, Twins.Way way) {
+        RefusedTest t = new RefusedTest(name, Night.DONE, way);
+        t.startable = false;
+        t.standing = standing;
+        t.begun = 2;
+        t.tryAll();
     }
 
     private static void alarmedWhenIdle(int alarm, boolean gone) {

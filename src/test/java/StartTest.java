@@ -65,25 +65,13 @@ public final class StartTest {
     private static void alarmsForbid() {
         for (int alarm : new int[] {0, 1, 3, 4}) {
             NightCycler x = new NightCycler();
-            tell(x, alarm, true);
+            Night.cause(x, alarm, true);
             Check.unsupported("with the cause " + alarm, () -> x.start());
-            tell(x, alarm, false);
+            Night.cause(x, alarm, false);
             Check.unsupported("with the alarm " + alarm, () -> x.start());
             Check.yes("lift " + alarm, x.lift(alarm));
             x.start();
             Check.same("started", x.state(0), Night.DRAIN);
-        }
-    }
-
-    private static void tell(NightCycler x, int cause, boolean there) {
-        if (cause == 0) {
-            x.air(there);
-        } else if (cause == 1) {
-            x.door(!there);
-        } else if (cause == 3) {
-            x.heat(0, there ? 4101 : 3700);
-        } else {
-            x.line(there);
         }
     }
 

@@ -20,6 +20,8 @@ public final class TickTest {
         heaterAtTheEdgesOfHeat();
         heaterBetweenTheLimits();
         chamberZeroFirstInEachPhase();
+        wantedFromBelowNothing();
+        wantedUpToTheCeiling();
         Check.finish();
     }
 
@@ -422,5 +424,42 @@ public final class TickTest {
         Check.same("the other one", x.tick(1), Night.FILL_1);
         x.end();
         Check.same("END", x.tick(1), Night.DRAIN_0);
+    }
+
+    /** With A below 0 there is more room than the ceiling, so all of FILL is wanted. */
+    private static void wantedFromBelowNothing() {
+        NightCycler x = Night.started(Night.CEILING, 1000, Night.FILL_VOLUME, 1000);
+        Night.moveTimes(x, 3, 200);
+        x.tick(61);
+        Check.same("A", x.state(2), -600);
+        Check.same("FILL", x.state(0), Night.FILL);
+        x.stroke(0, 200);
+        Night.moveTimes(x, 3, 200);
+        Night.moveTimes(x, 1, 199);
+        x.tick(1);
+        Check.same("999 of 1000", x.state(0), Night.FILL);
+        x.stroke(1, 1);
+        x.tick(1);
+        Check.same("1000 of 1000", x.state(0), Night.DWELL);
+        Check.same("A", x.state(2), 400);
+    }
+
+    private static void wantedUpToTheCeiling() {
+        for (int retained = 799; retained <= 801; retained++) {
+            NightCycler x = Night.started(Night.CEILING, 1000, Night.FILL_VOLUME, 500, Night.RETAINED, retained);
+            x.tick(120);
+            int due = retained == 801 ? 0 : Night.FILL_0;
+            Check.same("the first tick of FILL with A " + retained, x.tick(1), due);
+            Check.same("FILL begins", x.state(0), Night.FILL);
+            Check.same("a stroke with A " + retained, x.stroke(0, 200) ? 1 : 0, retained == 801 ? 0 : 1);
+            x.tick(1);
+            Check.same("over with A " + x.state(2), x.state(0), Night.DWELL);
+        }
+        NightCycler full = Night.started(Night.CEILING, 1000, Night.FILL_VOLUME, 1000, Night.RETAINED, 1000);
+        full.tick(121);
+        Check.same("nothing is wanted at the ceiling", full.state(0), Night.FILL);
+        full.tick(1);
+        Check.same("so FILL is over", full.state(0), Night.DWELL);
+        Check.same("with nothing filled", full.report(1, 0), 0);
     }
 }
