@@ -16,6 +16,10 @@ public final class CutTest {
         pagesByTurns();
         reportsOfLaterCycles();
         prescribedAnewBeforeALoss();
+        doneLostByALaterCut();
+        poorStays();
+        thePrescriptionStays();
+        theHeaterBeginsOff();
         Check.finish();
     }
 
@@ -299,5 +303,94 @@ public final class CutTest {
         Check.same("of cycle 2", x.state(1), 2);
         x.tick(61);
         Check.same("no cycle more", x.state(0), Night.DONE);
+    }
+
+    /** The page written latest is DONE's, also when a cut before this one left it and it is IDLE now. */
+    private static void doneLostByALaterCut() {
+        NightCycler x = Night.inFirstFill();
+        Night.moveTimes(x, 2, 200);
+        x.end();
+        Night.moveTimes(x, 2, 200);
+        x.tick(61);
+        Check.same("DONE", x.state(0), Night.DONE);
+        x.cut(6);
+        Check.same("DONE counts", x.power(0), Night.IDLE);
+        x.tick(10);
+        x.cut(5);
+        Check.same("END is the other page's", x.power(0), Night.END);
+        Check.same("its cycle", x.state(1), 1);
+        Check.same("its A", x.state(2), 0);
+        Check.same("what it took", x.state(5), 400);
+        x.tick(60);
+        Check.same("60 ticks anew", x.state(0), Night.END);
+        x.tick(1);
+        Check.same("then it is over", x.state(0), Night.DONE);
+        Check.same("400 of 400 are not poor", x.report(1, 3), 0);
+        Check.same("the report of it stayed", x.report(1, 1), 400);
+    }
+
+    /** A cycle that was poor is so, though the page behind it was lost and more was taken then. */
+    private static void poorStays() {
+        NightCycler x = Night.started(Night.RETAINED, 200);
+        x.tick(121);
+        Check.same("FILL", x.state(0), Night.FILL);
+        Check.same("poor", x.report(0, 3), 1);
+        x.cut(0);
+        Check.same("DRAIN", x.power(0), Night.DRAIN);
+        Check.same("reports outlive the cut", x.report(0, 3), 1);
+        Night.moveTimes(x, 1, 200);
+        x.tick(61);
+        Check.same("FILL again", x.state(0), Night.FILL);
+        Check.same("all was taken", x.report(0, 1), 200);
+        Check.same("it was poor", x.report(0, 3), 1);
+    }
+
+    /** A prescription that is sound at its edge, cut before the start: each field is seen to be as it was. */
+    private static void thePrescriptionStays() {
+        NightCycler x = Night.prescribed(Night.CYCLES, 1, Night.FILL_VOLUME, 600, Night.DWELL_MINUTES, 2,
+            Night.LAST_VOLUME, 100, Night.LEAST, 50, Night.CEILING, 1000, Night.NIGHT, 2, Night.TARGET, 3600,
+            Night.RETAINED, 300);
+        x.cut(0);
+        x.power(1000);
+        x.start();
+        Check.same("RETAINED", x.state(2), 300);
+        x.heat(0, 3560);
+        Check.same("TARGET", x.tick(1), Night.DRAIN_0);
+        x.stroke(0, 150);
+        x.heat(0, 3549);
+        x.heat(1, 3600);
+        Check.same("the target less 50", x.tick(1), Night.DRAIN_1 + Night.HEATER);
+        x.tick(60);
+        Check.same("LEAST", x.state(0), Night.FILL);
+        x.stroke(0, 200);
+        Night.moveTimes(x, 2, 200);
+        x.tick(1);
+        Check.same("FILL", x.state(0), Night.DWELL);
+        x.tick(479);
+        Check.same("480 ticks", x.state(0), Night.DWELL);
+        x.tick(1);
+        Check.same("DWELL", x.state(0), Night.DRAIN);
+        x.stroke(0, 200);
+        Night.moveTimes(x, 2, 200);
+        x.tick(61);
+        Check.same("CYCLES and LAST", x.state(0), Night.LAST);
+        x.stroke(0, 100);
+        x.tick(1);
+        Check.same("of 100", x.state(0), Night.DONE);
+        x.prescribe(Night.DWELL_MINUTES, 3);
+        Check.unsupported("NIGHT", () -> x.start());
+        x.prescribe(Night.DWELL_MINUTES, 2);
+        x.prescribe(Night.FILL_VOLUME, 1001);
+        Check.unsupported("CEILING", () -> x.start());
+    }
+
+    private static void theHeaterBeginsOff() {
+        NightCycler x = Night.inFirstFill();
+        x.heat(0, 3640);
+        Check.same("on", x.tick(1), Night.FILL_0 + Night.HEATER);
+        x.cut(6);
+        x.power(0);
+        x.heat(0, 3660);
+        Check.same("it was off in the latest tick, as at first", x.tick(1), Night.FILL_0);
     }
 }

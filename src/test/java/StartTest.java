@@ -7,6 +7,7 @@ public final class StartTest {
         alarmsForbid();
         onlyBetweenTherapies();
         theBaseIsTaken();
+        whatAStartLeaves();
         Check.finish();
     }
 
@@ -116,5 +117,26 @@ public final class StartTest {
         Check.same("B goes on when DONE", y.state(3), 800);
         y.start();
         Check.same("a new base", y.state(3), 700);
+    }
+
+    /** Weights, how long alarms are mute and what the heater was in the latest tick are none of the start's. */
+    private static void whatAStartLeaves() {
+        NightCycler x = new NightCycler();
+        x.line(true);
+        x.mute();
+        x.line(false);
+        x.lift(4);
+        Night.weigh(x, 8, 5000);
+        x.start();
+        Check.same("mute", x.muted(), 480);
+        Check.same("the weights", x.state(3), 0);
+        x.heat(0, 3640);
+        x.end();
+        Check.same("the tick in which DONE begins", x.tick(61), Night.HEATER);
+        Check.same("DONE", x.state(0), Night.DONE);
+        x.heat(0, 3660);
+        x.start();
+        Check.same("the heater was on in the latest tick", x.tick(1), Night.DRAIN_0 + Night.HEATER);
+        Check.same("mutes ran down by each tick", x.muted(), 480 - 62);
     }
 }
